@@ -1,0 +1,224 @@
+/** Promises 37 to 41. */
+public final class ImageTest {
+    private static final int BEYOND = -1000000001;
+    private static final int FULL = -1000000002;
+    private static final int KIND = -1000000003;
+    private static final int NONE = -1000000004;
+    private static final int STATE = -1000000005;
+    private static final int MISSING = -1000000006;
+    private static final int SIZE = -1000000007;
+    private static int wrong = 0;
+
+    private static void due(String call, long got, long want) {
+        if (got != want) {
+            wrong++;
+            System.out.println(call + " answered " + got + ", due is " + want);
+        }
+    }
+
+    private static NextButOne full() {
+        NextButOne x = new NextButOne();
+        for (int i = 0; i < 4; i++) {
+            x.person(i, 30 + i, i);
+        }
+        x.line(0, 1);
+        x.line(1, 2);
+        // so that the FRIEND names 3, and 0 may sit
+        x.likes(2, 3, 1);
+        x.come();
+        x.sit(0);
+        x.years(1);
+        x.feed('a', 1);
+        x.text();
+        return x;
+    }
+
+    private static void change(NextButOne x) {
+        x.person(5, 77, 3);
+        x.set(0, 0, 6);
+        x.set(0, 1, 98);
+        x.set(0, 2, 3);
+        x.set(0, 3, 14);
+        x.likes(0, 1, 9);
+        x.worth(1, 2, 50);
+        x.rule(5, 20);
+        x.rule(1, 1);
+        x.rule(2, 1);
+        x.rule(3, 1);
+        x.rule(4, 2);
+        x.rule(0, 4);
+        x.years(40);
+        x.untell();
+        x.seed(99);
+    }
+
+    private static void undo() {
+        NextButOne x = full();
+        int z = x.count(5);
+        due("38: NONE", x.undo(), NONE);
+        due("37: 1", x.image(), 1);
+        change(x);
+        due("38: how many PEOPLE", x.undo(), 4);
+        due("38: KIND", x.of(0, 0), 0);
+        due("38: AGE", x.of(0, 1), 31);
+        due("38: SORT", x.of(0, 2), 0);
+        due("38: KIN", x.of(0, 3), 0);
+        due("38: RULED", x.count(3), 1);
+        due("38: DEAD", x.of(0, 5), 0);
+        due("38: alive", x.count(1), 4);
+        due("38: SITS", x.now(0), 0);
+        due("38: REIGN", x.now(1), 1);
+        due("38: place 0", x.now(2), 2);
+        due("38: place 1", x.now(3), 3);
+        due("38: AHEAD", x.now(4), BEYOND);
+        due("38: z", x.count(5), z);
+        due("38: LIKES", x.likes(0, 1, 1), 0);
+        due("38: WORTH", x.worth(1, 2, 1), 0);
+        due("38: the TEXT", x.gives(0, 1), 32);
+        int[] rules = {2, 7, 0, 0, 0, 2};
+        for (int what = 0; what < 6; what++) {
+            due("38: rule " + what, x.rule(what, rules[what]), rules[what]);
+        }
+        due("38: it stays", x.undo(), 4);
+        due("38: LIKES again", x.likes(0, 1, 1), 0);
+    }
+
+    private static void latest() {
+        NextButOne x = full();
+        x.image();
+        x.person(0, 50, 0);
+        due("37: the latest", x.image(), 1);
+        x.person(0, 50, 0);
+        due("38: of the latest", x.undo(), 5);
+        due("39: something was", x.tear(), 1);
+        due("39: nothing was", x.tear(), 0);
+        due("38: NONE", x.undo(), NONE);
+        due("39: all else stays", x.count(0), 5);
+        x.image();
+        due("39: kept again", x.tear(), 1);
+    }
+
+    private static void notKept() {
+        NextButOne x = full();
+        x.feed(0x6161, 2);
+        x.sheet(0, 8, 3);
+        x.image();
+        x.feed('l', 1);
+        x.sheet(0, 16, 2);
+        x.write(0, 1, 300);
+        x.untell();
+        x.person(9, 9, 9);
+        x.undo();
+        due("37: THE TAPE is not kept", x.count(4), 3);
+        due("37: sheets are not kept", x.write(0, 1, 0), 300);
+        due("41: undo takes no finding back", x.status(-1), 1);
+        NextButOne y = new NextButOne();
+        y.image();
+        y.feed('a', 1);
+        y.text();
+        y.person(0, 30, 0);
+        y.person(0, 30, 0);
+        due("38: nobody", y.undo(), 0);
+        due("38: no TEXT", y.untell(), 0);
+        due("38: nobody there", y.of(0, 0), BEYOND);
+        y.person(3, 40, 2);
+        due("38: a new one is new", y.of(0, 4) + y.of(0, 5) + y.of(0, 3), 0);
+    }
+
+    private static void newOnesAreNew() {
+        NextButOne x = new NextButOne();
+        x.image();
+        x.person(0, 99, 1);
+        x.person(0, 99, 1);
+        x.set(0, 3, 2);
+        x.likes(0, 1, 5);
+        x.line(0, 0);
+        x.come();
+        x.rule(5, 20);
+        x.years(1);
+        x.undo();
+        x.person(0, 30, 0);
+        x.person(0, 30, 0);
+        due("38: KIN", x.of(0, 3), 0);
+        due("38: RULED", x.of(0, 4), 0);
+        due("38: DEAD", x.of(0, 5), 0);
+        due("38: LIKES", x.likes(0, 1, 0), 0);
+    }
+
+    private static void count() {
+        NextButOne x = full();
+        due("40: PEOPLE", x.count(0), 4);
+        due("40: alive", x.count(1), 4);
+        due("40: named", x.count(2), 2);
+        due("40: RULED", x.count(3), 1);
+        due("40: bytes", x.count(4), 0);
+        x.feed(0, 4);
+        due("40: bytes", x.count(4), 4);
+        x.seed(-1000000001);
+        due("40: z", x.count(5), -1000000001);
+        due("40: no finding", x.status(-1), 0);
+        due("40: 6", x.count(6), BEYOND);
+        due("40: -1", x.count(-1), BEYOND);
+        x.line(0, -1);
+        due("40: named", x.count(2), 1);
+        x.set(3, 1, 99);
+        x.rule(5, 20);
+        x.years(1);
+        due("40: alive", x.count(1), 3);
+        due("40: PEOPLE, the DEAD too", x.count(0), 4);
+    }
+
+    private static void status() {
+        NextButOne x = new NextButOne();
+        for (int which = -1; which < 7; which++) {
+            due("41: none of " + which, x.status(which), 0);
+        }
+        due("41: BEYOND", x.person(-1, 0, 0), BEYOND);
+        for (int i = 0; i < 20; i++) {
+            x.feed(0, 4);
+        }
+        x.feed(0, 1);
+        x.feed(0, 1);
+        due("41: FULL", x.feed(0, 1), FULL);
+        x.person(0, 99, 0);
+        for (int i = 0; i < 3; i++) {
+            due("41: KIND", x.as(0, 1), KIND);
+        }
+        x.rule(5, 20);
+        x.years(1);
+        for (int i = 0; i < 4; i++) {
+            due("41: NONE", x.vote(), NONE);
+        }
+        for (int i = 0; i < 5; i++) {
+            due("41: STATE", x.sit(0), STATE);
+        }
+        for (int i = 0; i < 6; i++) {
+            due("41: MISSING", x.read(0), MISSING);
+        }
+        for (int i = 0; i < 7; i++) {
+            due("41: SIZE", x.sheet(0, 8, -1), SIZE);
+        }
+        int[] found = {1, 3, 3, 4, 5, 6, 7};
+        for (int which = 0; which < 7; which++) {
+            due("41: of " + which, x.status(which), found[which]);
+        }
+        due("41: all", x.status(-1), 29);
+        due("41: 7", x.status(7), BEYOND);
+        due("41: counted from then on", x.status(0), 2);
+        due("41: -2", x.status(-2), BEYOND);
+        due("41: all from then on", x.status(-1), 31);
+    }
+
+    public static void main(String[] args) {
+        undo();
+        latest();
+        notKept();
+        newOnesAreNew();
+        count();
+        status();
+        System.out.println(wrong == 0 ? "all answers are as due" : wrong + " answers are not as due");
+        if (wrong != 0) {
+            System.exit(1);
+        }
+    }
+}
