@@ -53,7 +53,7 @@ public final class NextButOne {
     private static final int MOST_OPEN = 5;
     private static final int MOST_DIGITS = 4;
     private static final String NAMES = "laswrn";
-    /** The sign of - ahead of a Q; no byte of THE TEXT is kept as it. */
+    /** What - ahead of a Q is kept as, to tell it from - between two. */
     private static final char LESS = '~';
 
     private static final int SHEETS = 4;
@@ -1113,9 +1113,10 @@ public final class NextButOne {
             int top = 0;
             for (int i = 0; i < length; i++) {
                 char sign = codes[i] < 0 ? (char) (-1 - codes[i]) : '0';
-                if (sign == '0' || NAMES.indexOf(sign) >= 0) {
+                boolean letter = sign >= 'a' && sign <= 'z';
+                if (sign == '0' || letter) {
                     if (top < TAPE) {
-                        stack[top] = sign == '0' ? codes[i] : seat.valueOf(sign, one, other);
+                        stack[top] = letter ? seat.valueOf(sign, one, other) : codes[i];
                         top++;
                     }
                 } else if (sign == '!' || sign == LESS) {

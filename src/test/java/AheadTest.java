@@ -278,6 +278,21 @@ public final class AheadTest {
         due("26: who SITS didn't come", x.odds(0, 2), 0);
     }
 
+    /** Where nobody comes, the lots of all 200 YEARS are drawn, and no more: z shows it in the trials after. */
+    private static void oddsEndAfterYears() {
+        NextButOne x = new NextButOne();
+        x.person(0, 98, 0);
+        for (int i = 0; i < 9; i++) {
+            x.person(0, 20, 0);
+        }
+        x.rule(5, 1);
+        x.rule(1, 40);
+        x.sit(1);
+        x.line(0, 0);
+        x.seed(41);
+        due("26: 200 YEARS at most", x.odds(0, 40), 2);
+    }
+
     public static void main(String[] args) {
         ahead();
         ever();
@@ -291,6 +306,7 @@ public final class AheadTest {
         odds();
         oddsByLots();
         oddsByYears();
+        oddsEndAfterYears();
         System.out.println(wrong == 0 ? "all answers are as due" : wrong + " answers are not as due");
         if (wrong != 0) {
             System.exit(1);
