@@ -98,7 +98,7 @@ public final class NextButOne {
             case 6:
                 return realm.seat.placeOf(person);
             case 7:
-                return realm.folk.isAlive(person) ? realm.seat.choice(person, LOOKING) : NOBODY;
+                return realm.seat.choice(person, LOOKING);
             default:
                 return realm.folk.trait(what)[person];
         }

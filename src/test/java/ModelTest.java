@@ -533,7 +533,7 @@ public final class ModelTest {
                     ask(one(a) && in(b, 0, 7), BEYOND);
                     One x = w.people.get(a);
                     int[] all = {x.kind, x.age, x.sort, x.kin, x.ruled, x.dead ? 1 : 0, w.line.indexOf(a)};
-                    return b < 7 ? all[b] : x.dead ? -1 : no(w.would(a));
+                    return b < 7 ? all[b] : no(w.would(a));
                 case 2:
                     ask(one(a) && in(b, 0, 3), BEYOND);
                     One y = w.people.get(a);

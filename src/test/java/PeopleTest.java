@@ -96,9 +96,54 @@ public final class PeopleTest {
         x.rule(5, 20);
         x.years(1);
         due("3: DEAD", x.of(0, 5), 1);
-        due("3: a DEAD one names nobody", x.of(0, 7), -1);
+        due("3: a DEAD one would likewise", x.of(0, 7), 1);
         due("3: nobody to name", x.of(1, 7), -1);
         due("3: AGE of a DEAD one stays", x.of(0, 1), 99);
+        x.sit(1);
+        due("3: a DEAD one, and the last one SITS", x.of(0, 7), -1);
+        x.sit(-1);
+        x.line(0, 1);
+        due("3: a DEAD one, and the last one is in THE LINE", x.of(0, 7), -1);
+    }
+
+    /** 0 is DEAD, of SORT 2, LIKES 3 most; 1 is the first in THE LINE, LIKES 4 most and 5 least; 2 is the oldest. */
+    private static NextButOne withDeadNamer() {
+        NextButOne x = new NextButOne();
+        x.person(0, 99, 2);
+        x.rule(5, 20);
+        x.years(1);
+        int[] ages = {20, 39, 30, 31, 32, 33};
+        int[] sorts = {0, 1, 1, 3, 2, 2};
+        for (int i = 0; i < ages.length; i++) {
+            x.person(0, ages[i], sorts[i]);
+        }
+        x.line(0, 1);
+        x.likes(0, 3, 5);
+        x.likes(0, 6, 4);
+        x.likes(1, 4, 3);
+        x.likes(1, 5, -3);
+        x.worth(2, 2, 9);
+        return x;
+    }
+
+    private static void ofDeadByKind() {
+        NextButOne x = withDeadNamer();
+        due("3: 0 is DEAD", x.of(0, 5), 1);
+        int[] names = {3, 4, 5, 2, 6, 3, 5};
+        for (int kind = 0; kind < names.length; kind++) {
+            x.set(0, 0, kind);
+            due("3: a DEAD one of KIND " + kind, x.of(0, 7), names[kind]);
+        }
+        x.set(0, 0, 5);
+        x.feed('a' << 24 | '=' << 16 | '3' << 8 | '1', 4);
+        due("3: a TEXT", x.text(), 1);
+        due("3: a DEAD one who is TOLD", x.of(0, 7), 4);
+        x.set(0, 0, 0);
+        x.set(0, 3, 1 << 3);
+        due("3: a DEAD one names no KIN", x.of(0, 7), 6);
+        x.rule(3, 1);
+        due("3: a DEAD one names KIN by KINS", x.of(0, 7), 3);
+        due("3: no findings", x.status(-1), 0);
     }
 
     private static void set() {
@@ -217,6 +262,7 @@ public final class PeopleTest {
         person();
         of();
         ofDead();
+        ofDeadByKind();
         set();
         as();
         likes();
