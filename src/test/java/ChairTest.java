@@ -1,41 +1,5 @@
 /** Promises 9 to 16, and how each KIND names. */
-public final class ChairTest {
-    private static final int BEYOND = -1000000001;
-    private static final int KIND = -1000000003;
-    private static final int STATE = -1000000005;
-    private static int wrong = 0;
-
-    private static void due(String call, long got, long want) {
-        if (got != want) {
-            wrong++;
-            System.out.println(call + " answered " + got + ", due is " + want);
-        }
-    }
-
-    private static NextButOne people(int... kinds) {
-        NextButOne x = new NextButOne();
-        for (int i = 0; i < kinds.length; i++) {
-            x.person(kinds[i], 30 + i, i % 4);
-        }
-        return x;
-    }
-
-    private static NextButOne withOneDead() {
-        NextButOne x = new NextButOne();
-        x.person(0, 99, 0);
-        x.rule(5, 20);
-        x.years(1);
-        x.person(0, 30, 0);
-        x.person(0, 31, 0);
-        return x;
-    }
-
-    private static void line(String what, NextButOne x, int... want) {
-        for (int i = 0; i < want.length; i++) {
-            due(what + ", place " + i, x.now(2 + i), want[i]);
-        }
-    }
-
+public final class ChairTest extends Check {
     private static void sit() {
         NextButOne x = people(0, 0, 0);
         due("9: nobody did", x.sit(1), -1);
@@ -374,9 +338,6 @@ public final class ChairTest {
         deaths();
         deathInTheChair();
         seedAndNow();
-        System.out.println(wrong == 0 ? "all answers are as due" : wrong + " answers are not as due");
-        if (wrong != 0) {
-            System.exit(1);
-        }
+        end();
     }
 }

@@ -1,21 +1,5 @@
 /** Promises 37 to 41. */
-public final class ImageTest {
-    private static final int BEYOND = -1000000001;
-    private static final int FULL = -1000000002;
-    private static final int KIND = -1000000003;
-    private static final int NONE = -1000000004;
-    private static final int STATE = -1000000005;
-    private static final int MISSING = -1000000006;
-    private static final int SIZE = -1000000007;
-    private static int wrong = 0;
-
-    private static void due(String call, long got, long want) {
-        if (got != want) {
-            wrong++;
-            System.out.println(call + " answered " + got + ", due is " + want);
-        }
-    }
-
+public final class ImageTest extends Check {
     private static NextButOne full() {
         NextButOne x = new NextButOne();
         for (int i = 0; i < 4; i++) {
@@ -209,6 +193,150 @@ public final class ImageTest {
         due("41: all from then on", x.status(-1), 31);
     }
 
+    /** All that section 1 tells, at its greatest: ten PEOPLE, four places, a TEXT of 80 bytes. */
+    private static void imageOfMuch() {
+        NextButOne x = namers(10);
+        stand(x, 9, 8, 7, 6);
+        x.sit(5);
+        tell(x, "-1" + "-1".repeat(39));
+        x.likes(9, 8, 9);
+        x.likes(0, 1, -9);
+        x.worth(3, 3, -99);
+        x.set(9, 3, 1023);
+        x.seed(Integer.MIN_VALUE);
+        due("37: 1", x.image(), 1);
+        x.rule(0, 1);
+        x.sit(-1);
+        tell(x, "1");
+        x.likes(9, 8, 0);
+        x.likes(0, 1, 0);
+        x.worth(3, 3, 0);
+        x.set(9, 3, 0);
+        x.seed(5);
+        due("38: ten", x.undo(), 10);
+        line("38: THE LINE", x, 9, 8, 7, 6);
+        due("38: SITS", x.now(0), 5);
+        due("38: the TEXT", x.gives(0, 1), -40);
+        due("38: LIKES", x.likes(9, 8, 0), 9);
+        due("38: LIKES -9", x.likes(0, 1, 0), -9);
+        due("38: WORTH", x.worth(3, 3, 0), -99);
+        due("38: KIN", x.of(9, 3), 1023);
+        due("38: z", x.count(5), Integer.MIN_VALUE);
+        due("2: still FULL", x.person(0, 20, 0), FULL);
+    }
+
+    /** What is kept doesn't change by what comes later, and stays when it has been taken. */
+    private static void imageStays() {
+        NextButOne x = namers(2);
+        x.image();
+        for (int times = 0; times < 3; times++) {
+            due("38: one more", x.person(0, 20, 0), 2);
+            x.likes(0, 1, 7);
+            due("38: two", x.undo(), 2);
+            due("38: LIKES 0", x.likes(0, 1, 3), 0);
+        }
+        due("38: at once again", x.undo(), 2);
+        due("39: something was", x.tear(), 1);
+        due("38: NONE", x.undo(), NONE);
+        due("38: all stays", x.count(0), 2);
+        due("39: nothing was", x.tear(), 0);
+        due("37: again", x.image(), 1);
+        due("38: again", x.undo(), 2);
+    }
+
+    private static void imageOfNothing() {
+        NextButOne x = new NextButOne();
+        due("39: nothing was", x.tear(), 0);
+        due("38: NONE", x.undo(), NONE);
+        due("37: of nobody", x.image(), 1);
+        due("38: of nobody", x.undo(), 0);
+        due("39: something was", x.tear(), 1);
+    }
+
+    private static void countAtTheEdges() {
+        NextButOne x = new NextButOne();
+        int[] first = {0, 0, 0, 0, 0, 1};
+        for (int what = 0; what < 6; what++) {
+            due("40: at first, " + what, x.count(what), first[what]);
+        }
+        for (int one = 0; one < 10; one++) {
+            x.person(0, one == 0 ? 99 : 20, 0);
+        }
+        x.rule(5, 20);
+        x.years(1);
+        stand(x, 1, 2, 3, 4);
+        feed(x, "l".repeat(80));
+        x.seed(Integer.MAX_VALUE);
+        int[] full = {10, 9, 4, 0, 80, Integer.MAX_VALUE};
+        for (int what = 0; what < 6; what++) {
+            due("40: full, " + what, x.count(what), full[what]);
+        }
+        for (int times = 1; times <= 30; times++) {
+            x.come();
+            due("40: RULED of all", x.count(3), times);
+        }
+        int one = 0;
+        for (int p = 0; p < 10; p++) {
+            one += x.of(p, 4);
+        }
+        due("40: RULED of each", one, 30);
+        x.set(1, 1, 99);
+        x.years(1);
+        due("40: RULED of the DEAD, too", x.count(3) - x.count(0), 20);
+        for (int z : new int[] {BEYOND, SIZE, Integer.MIN_VALUE}) {
+            x.seed(z);
+            due("40: z is any number", x.count(5), z);
+        }
+        due("40: that is no finding", x.status(-1), 0);
+    }
+
+    /** An object is used for 512 calls: the last of them is as good as the first. */
+    private static void calls512() {
+        NextButOne x = new NextButOne();
+        for (int call = 1; call <= 511; call++) {
+            due("41: a finding", x.status(7), BEYOND);
+        }
+        due("41: all of 511", x.status(-1), 511);
+        NextButOne y = namers(3);
+        y.rule(2, 1);
+        y.line(0, 0);
+        for (int call = 6; call <= 511; call++) {
+            y.come();
+        }
+        due("40: RULED by the call 512", y.count(3), 506);
+    }
+
+    /** A finding that an act answers is counted, what only looks like one isn't. */
+    private static void whatLooksLikeOne() {
+        NextButOne x = namers(2);
+        x.sheet(0, 64, 1);
+        for (int finding = BEYOND; finding >= SIZE; finding--) {
+            x.seed(finding);
+            due("15: z", x.seed(1), finding);
+            x.write(0, 0, finding);
+            due("33: a number", x.write(0, 0, 0), finding);
+        }
+        tell(x, "-(9999*9999*10+9999*20+11)");
+        due("30: what THE TEXT gives", x.gives(0, 1), BEYOND);
+        tell(x, "l+");
+        due("41: none", x.status(-1), 0);
+    }
+
+    private static void undoTakesNoneBack() {
+        NextButOne x = new NextButOne();
+        x.image();
+        x.person(9, 9, 9);
+        x.as(0, 0);
+        x.vote();
+        x.undo();
+        due("41: BEYOND", x.status(0), 2);
+        due("41: NONE", x.status(3), 1);
+        due("41: all", x.status(-1), 3);
+        x.tear();
+        x.undo();
+        due("41: one more", x.status(3), 2);
+    }
+
     public static void main(String[] args) {
         undo();
         latest();
@@ -216,9 +344,13 @@ public final class ImageTest {
         newOnesAreNew();
         count();
         status();
-        System.out.println(wrong == 0 ? "all answers are as due" : wrong + " answers are not as due");
-        if (wrong != 0) {
-            System.exit(1);
-        }
+        imageOfMuch();
+        imageStays();
+        imageOfNothing();
+        countAtTheEdges();
+        calls512();
+        whatLooksLikeOne();
+        undoTakesNoneBack();
+        end();
     }
 }

@@ -6,15 +6,7 @@ import java.util.Random;
 import java.util.TreeSet;
 
 /** Random runs of calls on NextButOne and on a second, plainer writing of the document: both must answer alike. */
-public final class ModelTest {
-    static final int BEYOND = -1000000001;
-    static final int FULL = -1000000002;
-    static final int KIND = -1000000003;
-    static final int NONE = -1000000004;
-    static final int STATE = -1000000005;
-    static final int MISSING = -1000000006;
-    static final int SIZE = -1000000007;
-
+public final class ModelTest extends Check {
     /** The document's findings, thrown: the model may throw, the class may not. */
     static final class Found extends RuntimeException {
         private static final long serialVersionUID = 1L;
@@ -888,11 +880,14 @@ public final class ModelTest {
 
     /** Chooses calls: mostly right ones, edges, and now and then any number. */
     static final class Chooser {
+        /** Behind these the document leaves all answers free. */
+        static final int CALLS = 512;
         final Random r;
         final NextButOne x = new NextButOne();
         final Model m = new Model();
         final StringBuilder told = new StringBuilder();
         int wrong = 0;
+        int calls = 0;
 
         Chooser(long seed) {
             r = new Random(seed);
@@ -917,6 +912,10 @@ public final class ModelTest {
         }
 
         long call(int f, int... args) {
+            if (calls == CALLS) {
+                return 0;
+            }
+            calls++;
             int[] g = new int[5];
             System.arraycopy(args, 0, g, 0, args.length);
             long want = m.call(f, g[0], g[1], g[2], g[3], g[4]);
@@ -1134,7 +1133,7 @@ public final class ModelTest {
         for (int seed = 0; seed < runs && right; seed++) {
             Chooser c = new Chooser(seed);
             c.start();
-            for (int i = 0; i < 250 && c.wrong == 0; i++) {
+            for (int i = 0; i < Chooser.CALLS && c.calls < Chooser.CALLS && c.wrong == 0; i++) {
                 c.step();
             }
             if (c.wrong != 0) {

@@ -1,18 +1,5 @@
 /** Promises 1 to 8. */
-public final class PeopleTest {
-    private static final int BEYOND = -1000000001;
-    private static final int FULL = -1000000002;
-    private static final int KIND = -1000000003;
-    private static final int MISSING = -1000000006;
-    private static int wrong = 0;
-
-    private static void due(String call, long got, long want) {
-        if (got != want) {
-            wrong++;
-            System.out.println(call + " answered " + got + ", due is " + want);
-        }
-    }
-
+public final class PeopleTest extends Check {
     private static void newObject() {
         NextButOne x = new NextButOne();
         due("1: no PEOPLE", x.count(0), 0);
@@ -269,9 +256,6 @@ public final class PeopleTest {
         worth();
         rule();
         ruleAhead();
-        System.out.println(wrong == 0 ? "all answers are as due" : wrong + " answers are not as due");
-        if (wrong != 0) {
-            System.exit(1);
-        }
+        end();
     }
 }

@@ -1,18 +1,5 @@
 /** Promises 32 to 36. */
-public final class SheetTest {
-    private static final int BEYOND = -1000000001;
-    private static final int KIND = -1000000003;
-    private static final int MISSING = -1000000006;
-    private static final int SIZE = -1000000007;
-    private static int wrong = 0;
-
-    private static void due(String call, long got, long want) {
-        if (got != want) {
-            wrong++;
-            System.out.println(call + " answered " + got + ", due is " + want);
-        }
-    }
-
+public final class SheetTest extends Check {
     private static void sheet() {
         NextButOne x = new NextButOne();
         due("32: 8 bits", x.sheet(0, 8, 40), 40);
@@ -65,12 +52,6 @@ public final class SheetTest {
         due("33: no finding", x.write(2, 0, 0), -1000000001L);
         due("33: none counted", x.status(-1), found);
         due("33: the other number stays", x.write(2, 1, 0), 0);
-    }
-
-    private static void fill(NextButOne x, int s, int... numbers) {
-        for (int i = 0; i < numbers.length; i++) {
-            x.write(s, i, numbers[i]);
-        }
     }
 
     private static void holds(String what, NextButOne x, int s, int... numbers) {
@@ -168,15 +149,174 @@ public final class SheetTest {
         due("36: none", x.read(2), 0);
     }
 
+    /** The same sheet again: all 0, of its new bits and as many as told, whatever it held. */
+    private static void laidAgain() {
+        NextButOne x = new NextButOne();
+        for (int bits : new int[] {64, 8, 16, 64}) {
+            due("32: 40 of " + bits, x.sheet(2, bits, 40), 40);
+            for (int i = 0; i < 40; i++) {
+                due("32: all 0, " + i + " of " + bits, x.write(2, i, -1), 0);
+            }
+            due("32: less of " + bits, x.sheet(2, bits, 39), 39);
+            due("32: 39 isn't there, " + bits, x.write(2, 39, 1), BEYOND);
+            due("32: 38 is there, 0 again, " + bits, x.write(2, 38, 1), 0);
+        }
+        due("32: none", x.sheet(2, 8, 0), 0);
+        due("32: none isn't MISSING", x.write(2, 0, 1), BEYOND);
+        due("32: MISSING, n 40", x.sheet(2, 0, 40), 0);
+        due("32: MISSING", x.write(2, 0, 1), MISSING);
+        due("32: MISSING again", x.sheet(2, 0, 0), 0);
+        due("32: the others are MISSING", x.write(1, 0, 1), MISSING);
+    }
+
+    private static void lowestBits() {
+        long[] written = {Long.MAX_VALUE, Long.MIN_VALUE, 1L << 63 | 0x8080, 1L << 32 | 0x7f, 0xff, 0xffff, 0x100, 0x10000, -1, 0};
+        long[] of8 = {-1, 0, -128, 127, -1, -1, 0, 0, -1, 0};
+        long[] of16 = {-1, 0, -32640, 127, 255, -1, 256, 0, -1, 0};
+        NextButOne x = new NextButOne();
+        x.sheet(0, 8, 1);
+        x.sheet(1, 16, 1);
+        x.sheet(2, 64, 1);
+        for (int i = 0; i < written.length; i++) {
+            x.write(0, 0, written[i]);
+            x.write(1, 0, written[i]);
+            x.write(2, 0, written[i]);
+            due("33: 8 bits of " + written[i], x.write(0, 0, 5), of8[i]);
+            due("33: 16 bits of " + written[i], x.write(1, 0, 5), of16[i]);
+            due("33: 64 bits of " + written[i], x.write(2, 0, 5), written[i]);
+        }
+    }
+
+    private static NextButOne twoOfForty() {
+        NextButOne x = new NextButOne();
+        x.sheet(0, 64, 40);
+        x.sheet(1, 64, 40);
+        for (int i = 0; i < 40; i++) {
+            x.write(0, i, 100 + i);
+        }
+        return x;
+    }
+
+    private static void copyAll() {
+        NextButOne x = twoOfForty();
+        due("34: all 40", x.copy(0, 0, 1, 0, 40), 40);
+        for (int i = 0; i < 40; i++) {
+            due("34: came, " + i, x.write(1, i, 0), 100 + i);
+            due("34: stays, " + i, x.write(0, i, 0), 100 + i);
+        }
+        due("34: 41", x.copy(0, 0, 1, 0, 41), BEYOND);
+        due("34: 40 from 1 on", x.copy(0, 1, 1, 0, 40), BEYOND);
+        due("34: 40 to 1", x.copy(0, 0, 1, 1, 40), BEYOND);
+        due("34: none from 40 to 40", x.copy(0, 40, 1, 40, 0), 0);
+        due("34: none from 41", x.copy(0, 41, 1, 0, 0), BEYOND);
+        due("34: none to 41", x.copy(0, 0, 1, 41, 0), BEYOND);
+    }
+
+    private static void copyOne() {
+        NextButOne x = twoOfForty();
+        due("34: the last to the first", x.copy(0, 39, 1, 0, 1), 1);
+        due("34: the first to the last", x.copy(0, 0, 1, 39, 1), 1);
+        due("34: came first", x.write(1, 0, 0), 139);
+        due("34: came last", x.write(1, 39, 0), 100);
+        due("34: no other came", x.write(1, 1, 0) + x.write(1, 38, 0), 0);
+    }
+
+    /** Within a sheet, as they all were, on and back by one. */
+    private static void copyWithin() {
+        NextButOne x = twoOfForty();
+        due("34: on by one", x.copy(0, 0, 0, 1, 39), 39);
+        for (int i = 0; i < 40; i++) {
+            due("34: on by one, " + i, x.write(0, i, 200 + i), i == 0 ? 100 : 99 + i);
+        }
+        due("34: back by one", x.copy(0, 1, 0, 0, 39), 39);
+        for (int i = 0; i < 40; i++) {
+            due("34: back by one, " + i, x.write(0, i, i), i == 39 ? 239 : 201 + i);
+        }
+        due("34: to itself", x.copy(0, 0, 0, 0, 40), 40);
+        due("34: to itself, the same", x.write(0, 17, 0), 17);
+    }
+
+    private static void laysForTen() {
+        NextButOne x = namers(10);
+        x.sheet(0, 8, 40);
+        for (int i = 0; i < 40; i++) {
+            x.write(0, i, 9);
+        }
+        due("35: all others of ten", x.lays(0, 4), 9);
+        for (int other = 0; other < 10; other++) {
+            due("35: for " + other, other == 4 ? 9 : x.likes(4, other, 0), 9);
+        }
+        due("35: not of another one", x.likes(3, 4, 0), 0);
+        due("35: of the first", x.lays(0, 0), 9);
+        due("35: of the last", x.lays(0, 9), 9);
+        due("35: 10 is nobody", x.lays(0, 10), BEYOND);
+        due("35: few numbers", x.sheet(0, 8, 3) + x.lays(0, 9), 3 + 3);
+        due("35: few numbers, oneself among them", x.lays(0, 2), 2);
+        due("35: LIKES are 0 then", x.likes(9, 0, 1), 0);
+        due("35: others stay", x.likes(9, 3, 1), 9);
+    }
+
+    private static void laysAtTheEdges() {
+        long[] numbers = {-10, -9, 9, 10, Long.MIN_VALUE, Long.MAX_VALUE, 1L << 32, (1L << 32) - 9, 0};
+        NextButOne x = namers(10);
+        x.sheet(3, 64, 9);
+        fill(x, 3, numbers);
+        for (int other = 0; other < 9; other++) {
+            x.likes(9, other, 5);
+        }
+        due("35: three came", x.lays(3, 9), 3);
+        int[] likes = {5, -9, 9, 5, 5, 5, 5, 5, 0};
+        for (int other = 0; other < 9; other++) {
+            due("35: LIKES for " + other, x.likes(9, other, 5), likes[other]);
+        }
+        NextButOne y = withOneDead();
+        y.sheet(0, 16, 3);
+        fill(y, 0, 3, 4, 5);
+        due("35: of a DEAD one", y.lays(0, 0), 2);
+        due("35: for a DEAD one", y.lays(0, 1), 2);
+        due("35: it came", y.likes(1, 0, 0), 3);
+    }
+
+    private static void readForty() {
+        for (int bits : new int[] {8, 16, 64}) {
+            NextButOne x = namers(10);
+            stand(x, 0, 1, 2, 3);
+            x.sheet(1, bits, 40);
+            for (int i = 0; i < 40; i++) {
+                x.write(1, i, x.ahead(i + 1));
+            }
+            due("36: all 40 are right, " + bits, x.read(1), 0);
+            for (int i = 39; i >= 0; i--) {
+                x.write(1, i, 10);
+                due("36: the first that isn't, " + i + " of " + bits, x.read(1), 1 + i);
+            }
+        }
+        NextButOne y = new NextButOne();
+        y.sheet(0, 8, 40);
+        due("36: 0 isn't nobody", y.read(0), 1);
+        y.sheet(0, 8, 0);
+        due("36: none", y.read(0), 0);
+        y.sheet(0, 64, 1);
+        y.write(0, 0, 0xffffffffL);
+        due("36: all 64 bits count", y.read(0), 1);
+        y.write(0, 0, -1);
+        due("36: nobody", y.read(0), 0);
+    }
+
     public static void main(String[] args) {
         sheet();
         write();
         copy();
         lays();
         read();
-        System.out.println(wrong == 0 ? "all answers are as due" : wrong + " answers are not as due");
-        if (wrong != 0) {
-            System.exit(1);
-        }
+        laidAgain();
+        lowestBits();
+        copyAll();
+        copyOne();
+        copyWithin();
+        laysForTen();
+        laysAtTheEdges();
+        readForty();
+        end();
     }
 }
