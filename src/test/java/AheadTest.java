@@ -454,6 +454,19 @@ public final class AheadTest extends Check {
         due("25: the last two, 1", x.pact(1), 89);
     }
 
+    /** The DEAD are left out wherever they stand among the numbers. */
+    private static void pactWithoutTheDead() {
+        for (int dead = 0; dead < 3; dead++) {
+            NextButOne x = new NextButOne();
+            for (int one = 0; one < 3; one++) {
+                x.person(0, one == dead ? 99 : 20, 0);
+            }
+            x.rule(5, 20);
+            x.years(1);
+            due("25: " + dead + " is DEAD", x.pact(5), new int[] {12, 2, 1}[dead]);
+        }
+    }
+
     private static void pact() {
         NextButOne x = four();
         x.worth(3, 0, 90);
@@ -573,6 +586,7 @@ public final class AheadTest extends Check {
         pact();
         pactIsKeptOfBoth();
         pactOfTheLast();
+        pactWithoutTheDead();
         odds();
         oddsByLots();
         oddsByYears();

@@ -225,6 +225,68 @@ public final class ImageTest extends Check {
         due("2: still FULL", x.person(0, 20, 0), FULL);
     }
 
+    private static int traitOf(int one, int what, int turn) {
+        int[] traits = {(one + turn) % 7, 20 + one * 3 + turn, (one + turn) % 4, (one * 97 + turn * 31) % 1024};
+        return traits[what];
+    }
+
+    private static void setTraits(NextButOne x, int turn) {
+        for (int one = 0; one < 10; one++) {
+            for (int what = 0; what < 4; what++) {
+                x.set(one, what, traitOf(one, what, turn));
+            }
+        }
+        for (int i = 0; i < 90; i++) {
+            x.likes(i / 9, (i / 9 + 1 + i % 9) % 10, (i + turn * 5) % 19 - 9);
+        }
+        for (int i = 0; i < 16; i++) {
+            x.worth(i / 4, i % 4, i * 11 - 80 + turn);
+        }
+    }
+
+    /** Each trait of each of ten, each LIKES and WORTH. */
+    private static void imageOfEach() {
+        NextButOne x = namers(10);
+        setTraits(x, 1);
+        x.image();
+        setTraits(x, 2);
+        due("38: ten", x.undo(), 10);
+        for (int one = 0; one < 10; one++) {
+            for (int what = 0; what < 4; what++) {
+                due("38: " + what + " of " + one, x.of(one, what), traitOf(one, what, 1));
+            }
+        }
+        for (int i = 0; i < 90; i++) {
+            due("38: LIKES " + i, x.likes(i / 9, (i / 9 + 1 + i % 9) % 10, 0), (i + 5) % 19 - 9);
+        }
+        for (int i = 0; i < 16; i++) {
+            due("38: WORTH " + i, x.worth(i / 4, i % 4, 0), i * 11 - 80 + 1);
+        }
+    }
+
+    /** RULED and DEAD of each of ten. */
+    private static void imageOfTheDead() {
+        NextButOne x = namers(10);
+        x.rule(5, 20);
+        stand(x, 9, 0);
+        x.set(8, 1, 99);
+        x.come();
+        x.come();
+        x.years(1);
+        x.image();
+        for (int i = 0; i < 9; i++) {
+            x.come();
+        }
+        x.set(9, 1, 99);
+        x.set(7, 1, 99);
+        x.years(1);
+        due("38: ten", x.undo(), 10);
+        for (int one = 0; one < 10; one++) {
+            due("38: RULED of " + one, x.of(one, 4), one == 9 || one == 0 ? 1 : 0);
+            due("38: DEAD, " + one, x.of(one, 5), one == 8 ? 1 : 0);
+        }
+    }
+
     /** What is kept doesn't change by what comes later, and stays when it has been taken. */
     private static void imageStays() {
         NextButOne x = namers(2);
@@ -345,6 +407,8 @@ public final class ImageTest extends Check {
         count();
         status();
         imageOfMuch();
+        imageOfEach();
+        imageOfTheDead();
         imageStays();
         imageOfNothing();
         countAtTheEdges();

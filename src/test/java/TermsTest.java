@@ -219,6 +219,18 @@ public final class TermsTest extends Check {
         due("PACT, oneself is of the own SORT", x.of(0, 7), 0);
     }
 
+    /** Each one but the PACT itself is once the only one of its SORT, and LIKED least. */
+    private static void pactOfEachOne() {
+        for (int own = 0; own < 9; own++) {
+            NextButOne x = namers(10);
+            x.set(9, 0, PACT);
+            x.set(9, 2, 3);
+            x.set(own, 2, 3);
+            x.likes(9, own, -9);
+            due("PACT, of the own SORT is " + own, x.of(9, 7), own);
+        }
+    }
+
     private static void toldAtTheEdges() {
         NextButOne x = fiveWith(TOLD);
         likesOf(x, 0, 0, 0, 9);
@@ -296,6 +308,36 @@ public final class TermsTest extends Check {
         due("BEST 1 would name 2", x.of(1, 7), 2);
         // 1 names 3 by LIKES, 3 names 0
         due("12: there 1 names as NAMER", x.follows(0, 1), 7);
+    }
+
+    /** 0 is the next. By naming 1 it has 3, whom 1 LIKES, as much as by naming 3: so it names 1, the least. */
+    private static NextButOne twoBest() {
+        NextButOne x = people(BEST, BEST, NAMER, NAMER);
+        x.rule(5, 0);
+        stand(x, 0);
+        x.likes(1, 3, 5);
+        x.worth(3, 0, 50);
+        return x;
+    }
+
+    /** By whatever way a BEST one comes to name, in what follows the other one names as NAMER. */
+    private static void bestLooksAheadOnce() {
+        NextButOne x = twoBest();
+        x.line(0, -1);
+        due("3: BEST WOULD name", x.of(0, 7), 1);
+        NextButOne y = twoBest();
+        due("13: BEST comes", y.come(), 0);
+        line("13: BEST names", y, 1);
+        NextButOne z = twoBest();
+        due("14: BEST comes", z.years(1), 1);
+        line("14: BEST names", z, 1);
+        NextButOne w = twoBest();
+        due("17: BEST names", w.ahead(2), 1);
+        due("18: BEST and BEST by turns", w.ever(), 3);
+        due("21: 3 doesn't come", w.has(0, 200), 0);
+        w.sheet(0, 8, 4);
+        fill(w, 0, 0, 1, 0, 1);
+        due("36: by turns", w.read(0), 0);
     }
 
     private static void comeByGapZero() {
@@ -382,11 +424,13 @@ public final class TermsTest extends Check {
         theFirstNamed();
         foolAtTheEdges();
         pactAtTheEdges();
+        pactOfEachOne();
         toldAtTheEdges();
         bestAtTheEdges();
         followsAheadAndTwoTimes();
         followsWhoWasIsntAnyMore();
         followsBestAsNamer();
+        bestLooksAheadOnce();
         comeByGapZero();
         comeByGapOneAndTwo();
         aheadOne();

@@ -212,6 +212,16 @@ public final class TextTest extends Check {
         due("30: nested", x.gives(0, 1), 7);
     }
 
+    /** Forty of the same kind, joined from the left on. */
+    private static void longChains() {
+        worked(new Object[][] {{"0" + "|0".repeat(38) + "|1", 1}, {"0" + "|0".repeat(39), 0}, {"1" + "&1".repeat(39), 1},
+            {"1" + "&1".repeat(38) + "&0", 0}, {"9" + "-1".repeat(39), -30}, {"1" + "+2".repeat(39), 79},
+            {"7" + "*1".repeat(38) + "*2", 14}, {"7" + "/1".repeat(38) + "/2", 3}, {"7" + "%9".repeat(38) + "%2", 1},
+            {"1" + "|0&0".repeat(19), 1}, {"2" + "*3/3".repeat(19), 2}, {"5" + "+2-1".repeat(19), 24}});
+        due("29: compared once alone", answerTo("1" + "<1".repeat(39)), -4);
+        due("29: compared once in each B", answerTo("1" + "<1&1".repeat(19)), 1);
+    }
+
     private static void wraps() {
         Object[][] texts = {{"8192*8192*32", Integer.MIN_VALUE}, {"8192*8192*32-1", Integer.MAX_VALUE},
             {"8192*8192*32-1+1", Integer.MIN_VALUE}, {"-(8192*8192*32)", Integer.MIN_VALUE},
@@ -356,6 +366,7 @@ public final class TextTest extends Check {
         openAgain();
         faultAtTheEnd();
         theLongest();
+        longChains();
         wraps();
         byZero();
         cutTowardsNought();
